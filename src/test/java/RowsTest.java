@@ -1,22 +1,13 @@
 /** Promises 1 to 8: a new object, and the rows as they arrive. */
 final class RowsTest {
-    private static final Class<IllegalArgumentException> ARGUMENT = IllegalArgumentException.class;
-    private static final Class<IllegalStateException> STATE = IllegalStateException.class;
-    private static final Class<IndexOutOfBoundsException> INDEX = IndexOutOfBoundsException.class;
-
     public static void main(String[] args) {
         aNewObjectIsEmpty();
         objectsShareNothing();
         arriveNumbersRows();
         arriveTakesItsBounds();
-        arriveRefusesWhatIsOutOfRange();
-        arriveRefusesRow200();
         passAddsUpTo10000();
-        passRefuses();
         setLifetimeTellsTheOneBefore();
-        setLifetimeRefuses();
         valueAndLateTellOfARow();
-        valueAndLateRefuse();
         Due.end();
     }
 
@@ -78,45 +69,6 @@ final class RowsTest {
         Due.answer("late(3)", 10000, x.late(3));
     }
 
-    private static void arriveRefusesWhatIsOutOfRange() {
-        FeatureStore x = new FeatureStore();
-        x.pass(10);
-        Due.thrown("arrive(-1, 0, 0, 0)", ARGUMENT, () -> x.arrive(-1, 0, 0, 0));
-        Due.thrown("arrive(6, 0, 0, 0)", ARGUMENT, () -> x.arrive(6, 0, 0, 0));
-        Due.thrown("arrive(0, -1, 0, 0)", ARGUMENT, () -> x.arrive(0, -1, 0, 0));
-        Due.thrown("arrive(0, 10, 0, 0)", ARGUMENT, () -> x.arrive(0, 10, 0, 0));
-        Due.thrown("arrive(0, 0, -1, 0)", ARGUMENT, () -> x.arrive(0, 0, -1, 0));
-        Due.thrown("arrive(0, 0, 11, 0)", ARGUMENT, () -> x.arrive(0, 0, 11, 0));
-        Due.thrown("arrive(0, 0, 0, -1)", ARGUMENT, () -> x.arrive(0, 0, 0, -1));
-        Due.thrown("arrive(0, 0, 0, 100001)", ARGUMENT, () -> x.arrive(0, 0, 0, 100001));
-        Due.thrown("arrive of the least ints", ARGUMENT, () -> x.arrive(
-                Integer.MIN_VALUE, Integer.MIN_VALUE, Integer.MIN_VALUE, Integer.MIN_VALUE));
-        Due.thrown("arrive of the greatest ints", ARGUMENT, () -> x.arrive(
-                Integer.MAX_VALUE, Integer.MAX_VALUE, Integer.MAX_VALUE, Integer.MAX_VALUE));
-        Due.answer("rows() after refusals", 0, x.rows());
-        Due.answer("lag() after refusals", 0, x.lag());
-        Due.answer("skew() after refusals", 0, x.skew());
-    }
-
-    private static void arriveRefusesRow200() {
-        FeatureStore x = new FeatureStore();
-        x.pass(1);
-        for (int row = 0; row < 200; row++) {
-            Due.answer("arrive of row " + row, row, x.arrive(row % 6, row % 10, row % 2, row));
-        }
-        Due.thrown("arrive of row 200", STATE, () -> x.arrive(0, 0, 0, 0));
-        Due.thrown("arrive of row 200, out of range", ARGUMENT, () -> x.arrive(0, 0, 2, 0));
-        Due.answer("rows() when full", 200, x.rows());
-        Due.answer("lag() when full", 200, x.lag());
-        Due.answer("value(199)", 199, x.value(199));
-        Due.answer("value(0) when full", 0, x.value(0));
-        Due.thrown("value(200)", INDEX, () -> x.value(200));
-        Due.thrown("late(200)", INDEX, () -> x.late(200));
-        Due.answer("take(200) when full", 200, x.take(200));
-        Due.answer("skew() when all is taken in", 0, x.skew());
-        Due.thrown("arrive of row 200, all taken in", STATE, () -> x.arrive(0, 0, 0, 0));
-    }
-
     private static void passAddsUpTo10000() {
         FeatureStore x = new FeatureStore();
         Due.answer("pass(1)", 1, x.pass(1));
@@ -127,24 +79,6 @@ final class RowsTest {
         Due.answer("pass(10000) of a new object", 10000, new FeatureStore().pass(10000));
     }
 
-    private static void passRefuses() {
-        FeatureStore x = new FeatureStore();
-        Due.thrown("pass(0)", ARGUMENT, () -> x.pass(0));
-        Due.thrown("pass(-1)", ARGUMENT, () -> x.pass(-1));
-        Due.thrown("pass(10001)", ARGUMENT, () -> x.pass(10001));
-        Due.thrown("pass(least int)", ARGUMENT, () -> x.pass(Integer.MIN_VALUE));
-        Due.thrown("pass(greatest int)", ARGUMENT, () -> x.pass(Integer.MAX_VALUE));
-        Due.answer("now() after refusals", 0, x.now());
-        x.pass(3);
-        Due.thrown("pass(9998) at 3", STATE, () -> x.pass(9998));
-        Due.thrown("pass(10000) at 3", STATE, () -> x.pass(10000));
-        Due.thrown("pass(10001) at 3", ARGUMENT, () -> x.pass(10001));
-        Due.answer("now() still", 3, x.now());
-        x.pass(9997);
-        Due.thrown("pass(1) at 10000", STATE, () -> x.pass(1));
-        Due.answer("now() at the end still", 10000, x.now());
-    }
-
     private static void setLifetimeTellsTheOneBefore() {
         FeatureStore x = new FeatureStore();
         Due.answer("setLifetime(0, 5)", 10000, x.setLifetime(0, 5));
@@ -153,16 +87,6 @@ final class RowsTest {
         Due.answer("setLifetime(5, 10000)", 10000, x.setLifetime(5, 10000));
         Due.answer("setLifetime(5, 1)", 10000, x.setLifetime(5, 1));
         Due.answer("setLifetime(0, 2)", 10000, x.setLifetime(0, 2));
-    }
-
-    private static void setLifetimeRefuses() {
-        FeatureStore x = new FeatureStore();
-        x.setLifetime(0, 7);
-        Due.thrown("setLifetime(-1, 0)", ARGUMENT, () -> x.setLifetime(-1, 0));
-        Due.thrown("setLifetime(6, 0)", ARGUMENT, () -> x.setLifetime(6, 0));
-        Due.thrown("setLifetime(0, -1)", ARGUMENT, () -> x.setLifetime(0, -1));
-        Due.thrown("setLifetime(0, 10001)", ARGUMENT, () -> x.setLifetime(0, 10001));
-        Due.answer("setLifetime(0, 8) after refusals", 7, x.setLifetime(0, 8));
     }
 
     private static void valueAndLateTellOfARow() {
@@ -179,19 +103,5 @@ final class RowsTest {
         Due.answer("late(0)", 0, x.late(0));
         Due.answer("late(1)", 16, x.late(1));
         Due.answer("late(2)", 5, x.late(2));
-    }
-
-    private static void valueAndLateRefuse() {
-        FeatureStore x = new FeatureStore();
-        Due.thrown("value(0) without rows", INDEX, () -> x.value(0));
-        Due.thrown("late(0) without rows", INDEX, () -> x.late(0));
-        x.arrive(0, 0, 0, 1);
-        Due.thrown("value(-1)", INDEX, () -> x.value(-1));
-        Due.thrown("late(-1)", INDEX, () -> x.late(-1));
-        Due.thrown("value(1)", INDEX, () -> x.value(1));
-        Due.thrown("late(1)", INDEX, () -> x.late(1));
-        Due.thrown("value(200)", INDEX, () -> x.value(200));
-        Due.thrown("late(greatest int)", INDEX, () -> x.late(Integer.MAX_VALUE));
-        Due.thrown("value(least int)", INDEX, () -> x.value(Integer.MIN_VALUE));
     }
 }
