@@ -2,8 +2,8 @@ import java.util.ArrayList;
 import java.util.List;
 
 /**
- * A call that throws changes nothing: behind each call that is refused, an object answers all that
- * can be asked, and goes on, like one that was not asked.
+ * A call that throws changes nothing: behind each call that is refused, an object answers, and goes
+ * on, like one that was not asked.
  */
 final class RefusalsTest {
     private static final Class<IllegalArgumentException> ARGUMENT = IllegalArgumentException.class;
@@ -215,7 +215,7 @@ final class RefusalsTest {
             note(answers, "served(" + number + ")", () -> x.served(number));
             note(answers, "isSound(" + number + ")", () -> x.isSound(number) ? 1 : 0);
         }
-        // A full object has been called so often that but few pairs can be asked: see 512 calls.
+        // Making a full object takes some 400 of its 512 calls, so few pairs can be asked for.
         for (int pair = 0; pair < 60; pair += rows == 200 ? 20 : 1) {
             notePair(answers, x, pair / 10, pair % 10);
         }
