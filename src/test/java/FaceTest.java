@@ -7,7 +7,10 @@ import java.util.Arrays;
 import java.util.TreeSet;
 import java.util.stream.Collectors;
 
-/** The public face: all that the document names, and no other member that is not private. */
+/**
+ * The public face: all that the document names, and no other member that is not private; no private
+ * method bears the name of a public one.
+ */
 final class FaceTest {
     private static final String ILLEGAL_ARGUMENT = " throws IllegalArgumentException";
     private static final String ILLEGAL_STATE = ",IllegalStateException";
@@ -45,6 +48,7 @@ final class FaceTest {
         Due.truth("the class is public", true, Modifier.isPublic(modifiers));
         Due.truth("the class is final", true, Modifier.isFinal(modifiers));
         compareMembers();
+        holdPrivateNames();
         Due.end();
     }
 
@@ -82,6 +86,20 @@ final class FaceTest {
             }
         }
         return members;
+    }
+
+    private static void holdPrivateNames() {
+        TreeSet<String> seen = new TreeSet<>();
+        for (Method method : FeatureStore.class.getDeclaredMethods()) {
+            if (Modifier.isPublic(method.getModifiers())) {
+                seen.add(method.getName());
+            }
+        }
+        for (Method method : FeatureStore.class.getDeclaredMethods()) {
+            if (Modifier.isPrivate(method.getModifiers()) && seen.contains(method.getName())) {
+                Due.tell("private, with the name of a public method: " + method);
+            }
+        }
     }
 
     private static boolean isSeen(int modifiers, boolean synthetic) {
